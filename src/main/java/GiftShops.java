@@ -69,9 +69,9 @@ public final class GiftShops {
             bases[i] = FIRST_BASE;
         }
         tape = new Tape();
-        parser = new Parser();
         rules = new Rules();
         spareRules = new Rules();
+        parser = new Parser(tape, spareRules);
         facts = new int[Rules.FACTS];
         doubles = new int[HANDS];
         agreed = new int[HANDS];
@@ -119,8 +119,9 @@ public final class GiftShops {
     }
 
     public int text() {
-        int fault = parser.read(tape, spareRules);
+        int fault = parser.readInto(spareRules);
         tape.length = 0;
+        // a tape with a fault is no text: the one there was stays
         if (fault == 0) {
             Rules old = rules;
             rules = spareRules;
@@ -571,14 +572,17 @@ public final class GiftShops {
         private static final int MOST_LETTERS = 8;
         private static final int MOST_DIGITS = 4;
 
-        private Tape tape;
+        private final Tape tape;
         private int token;
         private int start;
         private int end;
         private int number;
 
-        private void begin(Tape from) {
-            tape = from;
+        private Scanner(Tape tape) {
+            this.tape = tape;
+        }
+
+        private void begin() {
             end = 0;
             next();
         }
@@ -602,7 +606,7 @@ public final class GiftShops {
                 token = numberToken();
             } else {
                 end++;
-                token = "()<=+-;".indexOf(sign) >= 0 ? sign : WRONG;
+                token = "()<=+-;".indexOf(sign) >= 0 ? (int) sign : WRONG;
             }
         }
 
@@ -679,15 +683,16 @@ public final class GiftShops {
         private Rules into;
         private int fault;
 
-        private Parser() {
-            scanner = new Scanner();
+        private Parser(Tape tape, Rules first) {
+            scanner = new Scanner(tape);
+            into = first;
         }
 
-        private int read(Tape tape, Rules rules) {
+        private int readInto(Rules rules) {
             into = rules;
             into.clear();
             fault = 0;
-            scanner.begin(tape);
+            scanner.begin();
             for (int i = 0; i <= Rules.MOST_LINES && scanner.token != Scanner.END; i++) {
                 if (!readLine()) {
                     return fault;
