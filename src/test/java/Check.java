@@ -5,16 +5,37 @@ final class Check {
     /** Stands for a call that throws NoSuchElementException. */
     static final long THROWS = Long.MIN_VALUE;
 
+    /** Numbers that no call of the document takes. */
+    static final int[] WILD = {Integer.MIN_VALUE, -1, 4096, Integer.MAX_VALUE};
+
+    static final String ALL_SHELF = "shelf when 1;";
+    static final String BY_STATE =
+            "shelf when state = 1; store when state = 2; rag when state = 3; look when state = 4;";
+
     private static int wrong = 0;
+    private static String sentence = "";
 
     private Check() {
+    }
+
+    /** What follows, up to the next such call, tests this sentence of the document. */
+    static void at(String words) {
+        sentence = "\"" + words + "\": ";
     }
 
     static void due(String call, long got, long want) {
         if (got != want) {
             wrong++;
-            System.out.println(call + " answered " + got + ", due is " + want);
+            System.out.println(sentence + call + " answered " + got + ", due is " + want);
         }
+    }
+
+    static void yes(String call, boolean got) {
+        due(call, got, true);
+    }
+
+    static void no(String call, boolean got) {
+        due(call, got, false);
     }
 
     static void due(String call, boolean got, boolean want) {
@@ -54,6 +75,33 @@ final class Check {
     static GiftShops with(String text) {
         GiftShops x = new GiftShops();
         due("reading [" + text + "]", read(x, text), 0);
+        return x;
+    }
+
+    /** Things 0 to 6, each of them what its number tells; 1 lies in shop 1, 5 was sold in 2, 6 was lost in 3. */
+    static GiftShops oneOfEach() {
+        GiftShops x = with(BY_STATE);
+        for (int state = 0; state <= 4; state++) {
+            x.give(state, 0, state, 4);
+        }
+        x.give(5, 0, 1, 4);
+        x.give(6, 0, 1, 4);
+        for (int thing = 1; thing <= 4; thing++) {
+            x.sort(thing, 1);
+        }
+        x.sort(5, 2);
+        x.sell(5);
+        x.sort(6, 3);
+        x.lose(6);
+        return x;
+    }
+
+    /** So many things of kind 0, for all seasons, put on a shop's shelf by a text that tells so. */
+    static GiftShops lying(int things, int shop) {
+        GiftShops x = with(ALL_SHELF);
+        for (int i = 0; i < things; i++) {
+            x.sort(x.give(0, 0, 0, 4), shop);
+        }
         return x;
     }
 

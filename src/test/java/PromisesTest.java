@@ -2,9 +2,8 @@
 public final class PromisesTest {
     private static final int LOW = Integer.MIN_VALUE;
     private static final int HIGH = Integer.MAX_VALUE;
-    private static final String ALL_SHELF = "shelf when 1;";
-    private static final String BY_STATE =
-            "shelf when state = 1; store when state = 2; rag when state = 3; look when state = 4;";
+    private static final String ALL_SHELF = Check.ALL_SHELF;
+    private static final String BY_STATE = Check.BY_STATE;
 
     public static void main(String[] args) {
         newObject();
@@ -43,11 +42,11 @@ public final class PromisesTest {
     }
 
     private static void yes(String call, boolean got) {
-        Check.due(call, got, true);
+        Check.yes(call, got);
     }
 
     private static void no(String call, boolean got) {
-        Check.due(call, got, false);
+        Check.no(call, got);
     }
 
     private static void newObject() {
