@@ -20,6 +20,7 @@ public final class PlanEdgesTest {
         cannotBe();
         nobodyMoreThanNeedBe();
         handedOn();
+        handedOnFar();
         allHelpers();
         rateAtFirst();
         leastAndMostRate();
@@ -276,6 +277,23 @@ public final class PlanEdgesTest {
             forced.helper(sets[i]);
         }
         Check.due("the first two on the last half day alone", forced.least(0b111), 1);
+    }
+
+    /** Sets of half days where a search that gives up too soon, or marks the wrong ones, tells one turn too many. */
+    private static void handedOnFar() {
+        Check.at("LEAST TURNS: the least t");
+        int[][] helpers = {{577, 1409, 3280, 356}, {3968, 124, 992, 62}, {6, 3, 6, 96, 2049, 3},
+            {3841, 3587, 3587, 1984, 124, 3587, 3968, 31, 248}, {1409, 448, 2065, 3168, 522, 149, 912, 2121, 518},
+            {598, 2161, 394, 36, 86, 1569, 13, 2201, 645},
+            {2857, 274, 2745, 3469, 1264, 3, 3752, 88, 1601, 2458}};
+        int[][] setAndLeast = {{192, 1}, {244, 3}, {6, 1}, {3767, 2}, {2013, 2}, {2807, 2}, {4075, 2}};
+        for (int i = 0; i < helpers.length; i++) {
+            GiftShops x = new GiftShops();
+            for (int set : helpers[i]) {
+                x.helper(set);
+            }
+            Check.due("set " + setAndLeast[i][0], x.least(setAndLeast[i][0]), setAndLeast[i][1]);
+        }
     }
 
     private static void allHelpers() {
