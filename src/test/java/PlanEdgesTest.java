@@ -39,7 +39,7 @@ public final class PlanEdgesTest {
     }
 
     private static void waysAtFirst() {
-        Check.at("0 to 99, the same back, 10 at first");
+        Check.at("ways between the SHOPS and the depot (5): 0 to 99, the same back, 10 at first");
         GiftShops x = new GiftShops();
         for (int set = 1; set < 32; set++) {
             Check.due("set " + set, x.round(set), 10 * (Integer.bitCount(set) + 1));

@@ -18,6 +18,7 @@ public final class ThingEdgesTest {
         hundredThings();
         numbersOfThings();
         otherNumbersOfThings();
+        whatAThingIs();
         baseAtFirst();
         leastAndMostBase();
         otherBase();
@@ -228,6 +229,33 @@ public final class ThingEdgesTest {
         }
         Check.due("THINGS", x.count(0), 0);
         Check.due("the next", x.give(1, 1, 1, 1), 0);
+    }
+
+    private static void whatAThingIs() {
+        Check.at("A THING is 0 NEW, 1 on a shelf, 2 in the STORE, 3 RAG, 4 LOOKED UP, 5 SOLD, 6 LOST");
+        GiftShops x = new GiftShops();
+        x.give(0, 0, 0, 4);
+        Check.due("given", Check.look(x, 0, 0), 0);
+        sortedBy(x, "look when 1;", 4);
+        sortedBy(x, "store when 1;", 2);
+        sortedBy(x, "look when 1;", 4);
+        sortedBy(x, Check.ALL_SHELF, 1);
+        x.sell(0);
+        Check.due("sold", Check.look(x, 0, 0), 5);
+        x.undo(0);
+        Check.due("its sale made void", Check.look(x, 0, 0), 1);
+        x.lose(0);
+        Check.due("lost", Check.look(x, 0, 0), 6);
+        x.sort(x.give(0, 0, 0, 4), 0);
+        x.weeks(60);
+        Check.due("lain for too long", Check.look(x, 1, 0), 3);
+        Check.due("lost for good", Check.look(x, 0, 0), 6);
+    }
+
+    private static void sortedBy(GiftShops x, String text, int is) {
+        Check.read(x, text);
+        Check.due("sorted by " + text, x.sort(0, 3), is);
+        Check.due("looked at after " + text, Check.look(x, 0, 0), is);
     }
 
     private static void baseAtFirst() {
